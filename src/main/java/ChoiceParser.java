@@ -548,7 +548,7 @@ public final class ChoiceParser {
                 }
             }
             for (int rule = 0; rule < expressions.length; rule++) {
-                if (expressions[rule] == null && (standing & 1 << rule) != 0) {
+                if (expressions[rule] == null && (standing & (1 << rule)) != 0) {
                     return rule;
                 }
             }

@@ -621,8 +621,9 @@ public final class ChoiceParser {
 
         private static int joinInRow(int p, int r) {
             int still = p & r & STILL;
-            boolean on = any(p, ON) && any(r, ON | STILL) || any(p, STILL) && any(r, ON);
-            boolean failing = any(p, FAILING) || any(p, STILL | ON) && any(r, FAILING);
+            boolean goes = (p & (STILL | ON)) != 0;
+            boolean on = goes && (r & ON) != 0 || (p & ON) != 0 && (r & STILL) != 0;
+            boolean failing = (p & FAILING) != 0 || goes && (r & FAILING) != 0;
             return still | (on ? ON : 0) | (failing ? FAILING : 0);
         }
 

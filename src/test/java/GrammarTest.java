@@ -68,6 +68,7 @@ public final class GrammarTest {
         outcomes("A=!(a*)/b/&c", 7);
         outcomes("A=&a/b", 7);
         outcomes("A=A", 0);
+        outcomes("A=Aa", 0);
         outcomes("A=aA", 4);
         outcomes("A=aA/b", 6);
         outcomes("A=A?", 0);

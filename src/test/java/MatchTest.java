@@ -142,6 +142,17 @@ public final class MatchTest {
         deepest("A=a&A+.*/a", 6);
         deepest("A=a!(!A).*/a", 6);
         chain();
+        justForty();
+    }
+
+    /** A step of 3, a part and two, meets 40 itself; A fails all the way from behind the input. */
+    private static void justForty() {
+        ChoiceParser x = Use.feed(Use.parser("A=aA"), "aaaaaaaaaaaaaaaaaaaa");
+        due.is("depth 40", x.match(0, 7), -1);
+        due.is("begun up to depth 40", x.count(4), 14);
+        ChoiceParser y = Use.feed(Use.parser("A=aA"), "aaaaaaaaaaaaaaaaaaaa");
+        due.throwsA("depth 43", IllegalStateException.class, () -> y.match(0, 6));
+        due.is("begun before depth 43", y.count(4), 14);
     }
 
     /** Rules that are each other's whole expression are two apart. */

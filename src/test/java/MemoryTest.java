@@ -25,6 +25,10 @@ public final class MemoryTest {
                     () -> x.memory(w[0], w[1]));
         }
         due.is("counts are not changed by memory()", Use.counts(x), "2 0 4 0 4 2");
+        ChoiceParser star = Use.feed(Use.parser("A=B*", "B=a"), "aaaaaaaaaaaaaaaaaaaa");
+        due.is("match of all letters", star.match(0, 0), 20);
+        due.is("the last time of *, which fails", star.memory(1, 20), -1);
+        due.is("begun of all letters", star.count(4), 22);
         ChoiceParser full = Use.feed(Use.parser("F=a*"), "aaaaaaaaaaaaaaaaaaaa");
         full.match(5, 20);
         due.is("memory of the last rule at the last place", full.memory(5, 20), 20);

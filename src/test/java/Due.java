@@ -2,7 +2,17 @@ import java.util.function.IntSupplier;
 
 /** Counts and prints the answers that are not the ones that are due. */
 final class Due {
+    private final Document document = new Document();
+    private String about = "";
     private int wrong;
+
+    /** Names the sentence of the document, below which heading it stands, that comes next to test. */
+    void sentence(String heading, String words) {
+        about = heading + ", \"" + words + "\": ";
+        if (!document.says(heading, words)) {
+            tell("the document", "nothing like it", "this sentence");
+        }
+    }
 
     void is(String call, long got, long want) {
         if (got != want) {
@@ -12,6 +22,13 @@ final class Due {
 
     void is(String call, boolean got, boolean want) {
         if (got != want) {
+            tell(call, String.valueOf(got), String.valueOf(want));
+        }
+    }
+
+    /** Floats must be the same to the last bit. */
+    void is(String call, float got, float want) {
+        if (Float.floatToIntBits(got) != Float.floatToIntBits(want)) {
             tell(call, String.valueOf(got), String.valueOf(want));
         }
     }
@@ -37,7 +54,7 @@ final class Due {
 
     private void tell(String call, String got, String want) {
         wrong++;
-        System.out.println(call + " answered " + got + ", due is " + want);
+        System.out.println(about + call + " answered " + got + ", due is " + want);
     }
 
     void end() {

@@ -1,6 +1,6 @@
 import java.util.NoSuchElementException;
 
-/** Promises 4, 7 and 8: drop, outcomes, check. */
+/** Promises 4, 7 and 8: drop, outcomes, check. Their edges are in GrammarEdgesTest. */
 public final class GrammarTest {
     private static final Due due = new Due();
 

@@ -1,6 +1,4 @@
-import java.util.NoSuchElementException;
-
-/** Promise 9: match. */
+/** Promise 9: match. Its edges are in MatchEdgesTest and DepthEdgesTest. */
 public final class MatchTest {
     private static final Due due = new Due();
 
@@ -8,8 +6,6 @@ public final class MatchTest {
         kinds();
         choices();
         places();
-        throwing();
-        exceptionsInOrder();
         depths();
         memorySavesDepth();
         due.end();
@@ -75,41 +71,6 @@ public final class MatchTest {
         due.throwsA("match at -1", IllegalArgumentException.class, () -> x.match(0, -1));
     }
 
-    private static void throwing() {
-        ChoiceParser x = Use.feed(Use.parser("A=a"), "a");
-        emptiesTree(x, "no rule below", NoSuchElementException.class, -1, 0);
-        emptiesTree(x, "no rule above", NoSuchElementException.class, 6, 0);
-        emptiesTree(x, "no expression", NoSuchElementException.class, 1, 0);
-        emptiesTree(x, "no place", IllegalArgumentException.class, 0, 2);
-        x.match(0, 0);
-        Use.rule(x, "B=B");
-        due.throwsA("not sound", IllegalStateException.class, () -> x.match(0, 0));
-        due.is("tree after not sound", Use.tree(x), "");
-        Use.rule(x, "B=C");
-        due.throwsA("one missing", IllegalStateException.class, () -> x.match(0, 0));
-        x.drop(1);
-        due.is("sound again", x.match(0, 0), 1);
-        due.is("fails", x.match(0, 1), -1);
-        due.is("tree after it failed", Use.tree(x), "");
-    }
-
-    private static void emptiesTree(ChoiceParser x, String why, Class<? extends RuntimeException> want,
-            int rule, int place) {
-        due.is("match before " + why, x.match(0, 0), 1);
-        due.is("tree before " + why, Use.tree(x), "0A0-1");
-        due.throwsA(why, want, () -> x.match(rule, place));
-        due.is("tree after " + why, Use.tree(x), "");
-        due.is("memory after " + why, x.memory(0, 0), 1);
-    }
-
-    private static void exceptionsInOrder() {
-        ChoiceParser x = Use.parser("A=A");
-        due.throwsA("no rule, no place", NoSuchElementException.class, () -> x.match(6, 1));
-        due.throwsA("no expression, no place", NoSuchElementException.class, () -> x.match(1, 1));
-        due.throwsA("no place, not sound", IllegalArgumentException.class, () -> x.match(0, 1));
-        due.throwsA("not sound", IllegalStateException.class, () -> x.match(0, 0));
-    }
-
     /** Rule A of the text calls itself once a letter; it can be worked out on this many, no more. */
     private static void deepest(String text, int letters) {
         String input = "aaaaaaaaaaaaaaaaaaaa";
@@ -142,17 +103,6 @@ public final class MatchTest {
         deepest("A=a&A+.*/a", 6);
         deepest("A=a!(!A).*/a", 6);
         chain();
-        justForty();
-    }
-
-    /** A step of 3, a part and two, meets 40 itself; A fails all the way from behind the input. */
-    private static void justForty() {
-        ChoiceParser x = Use.feed(Use.parser("A=aA"), "aaaaaaaaaaaaaaaaaaaa");
-        due.is("depth 40", x.match(0, 7), -1);
-        due.is("begun up to depth 40", x.count(4), 14);
-        ChoiceParser y = Use.feed(Use.parser("A=aA"), "aaaaaaaaaaaaaaaaaaaa");
-        due.throwsA("depth 43", IllegalStateException.class, () -> y.match(0, 6));
-        due.is("begun before depth 43", y.count(4), 14);
     }
 
     /** Rules that are each other's whole expression are two apart. */

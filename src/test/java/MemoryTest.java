@@ -1,4 +1,4 @@
-/** Promises 10, 12 and 13: memory, count, full. */
+/** Promises 10, 12 and 13: memory, count, full. Their edges are in MemoryEdgesTest. */
 public final class MemoryTest {
     private static final Due due = new Due();
 

@@ -5,7 +5,7 @@ import java.util.function.Supplier;
 
 /** All promises: long runs of calls, whose answers must be those of the plain model. */
 public final class ModelTest {
-    private static final int RUNS = 800;
+    private static final int RUNS = 3000;
     private static final int CALLS = 512;
 
     private final Random random;
@@ -85,7 +85,9 @@ public final class ModelTest {
         for (int rule = 0; rule < rules; rule++) {
             put(likelyText(rule, rules, letters));
         }
-        while (calls < CALLS && !wrong) {
+        // Many runs end early, so that calls are left to look at all there is.
+        int last = CALLS - random.nextInt(400);
+        while (calls < last && !wrong) {
             int dice = random.nextInt(100);
             if (dice < 15) {
                 put(likelyText(random.nextInt(rules), rules, letters));
@@ -109,6 +111,7 @@ public final class ModelTest {
             }
             look();
         }
+        lookWhole();
     }
 
     private void put(String text) {
@@ -160,16 +163,10 @@ public final class ModelTest {
         same("count(4)", () -> x.count(4), model.count(4));
         same("count(5)", () -> x.count(5), model.count(5));
         same("full()", x::full, model.full());
-        lookWhole();
     }
 
-    /** The whole tree and memory; these calls are not counted among the run's. */
+    /** The whole tree and memory, as far as the calls reach. */
     private void lookWhole() {
-        int counted = calls;
-        if (counted >= CALLS) {
-            return;
-        }
-        calls = -10_000;
         for (int i = 0; i <= Integer.parseInt(model.count(3)); i++) {
             for (int what = 0; what < 4; what++) {
                 int w = what;
@@ -184,7 +181,6 @@ public final class ModelTest {
                 quietly("memory(" + r + ", " + p + ")", () -> x.memory(r, p), model.memory(r, p));
             }
         }
-        calls = counted;
     }
 
     private void quietly(String call, Supplier<Object> real, String due) {

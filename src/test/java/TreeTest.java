@@ -1,4 +1,4 @@
-/** Promise 11: node, and the tree. */
+/** Promise 11: node, and the tree. Their edges are in TreeEdgesTest. */
 public final class TreeTest {
     private static final Due due = new Due();
 

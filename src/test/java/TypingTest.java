@@ -1,53 +1,12 @@
-/** Promises 1 to 3: a new object, type, rule. */
+/** Promises 2 and 3: type, rule. Their edges are in TypingEdgesTest. */
 public final class TypingTest {
     private static final Due due = new Due();
 
     public static void main(String[] args) {
-        newObject();
-        charactersOfTexts();
-        fullPad();
         textsThatAre();
         faults();
         faultyTextChangesNoRule();
         due.end();
-    }
-
-    private static void newObject() {
-        ChoiceParser x = new ChoiceParser();
-        due.is("counts of a new object", Use.counts(x), "0 0 0 0 0 0");
-        due.is("new check()", x.check(), 1);
-        due.is("new clear()", x.clear(), 0);
-        due.is("new full()", String.valueOf(x.full()), "0.0");
-        for (int rule = 0; rule < 6; rule++) {
-            due.is("new memory", x.memory(rule, 0), -2);
-            due.is("new drop", x.drop(rule), false);
-        }
-        due.is("new rule()", x.rule(), 1);
-        due.throwsA("new node(0, 0)", IndexOutOfBoundsException.class, () -> x.node(0, 0));
-    }
-
-    private static void charactersOfTexts() {
-        String texts = "abcdefghiABCDEF=/&!*+?.[-]()";
-        for (int c = 0; c <= Character.MAX_VALUE; c++) {
-            ChoiceParser x = new ChoiceParser();
-            boolean stands = texts.indexOf(c) >= 0;
-            due.is("type " + c, x.type((char) c), stands);
-            due.is("pad after type " + c, x.count(1), stands ? 1 : 0);
-        }
-    }
-
-    private static void fullPad() {
-        ChoiceParser x = new ChoiceParser();
-        String text = "A=abcdefghiabcdefghiabcd";
-        for (int i = 0; i < 24; i++) {
-            due.is("type no. " + i, x.type(text.charAt(i)), true);
-        }
-        due.is("type no. 24", x.type('a'), false);
-        due.is("type no. 24, no character of texts", x.type('z'), false);
-        due.is("full pad", x.count(1), 24);
-        due.is("rule() of a full pad", x.rule(), 0);
-        due.is("pad after rule()", x.count(1), 0);
-        due.is("type into the emptied pad", x.type('A'), true);
     }
 
     private static void textsThatAre() {

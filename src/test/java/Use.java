@@ -32,10 +32,16 @@ final class Use {
         return x;
     }
 
+    /** Where the rule of this text goes from the beginning of this input. */
+    static int goes(String text, String input) {
+        return feed(parser(text), input).match(text.charAt(0) - 'A', 0);
+    }
+
     /** The nodes in their order, each as its depth, rule, begin and end: "0A0-3 1B0-1". */
     static String tree(ChoiceParser x) {
         StringBuilder told = new StringBuilder();
-        for (int i = 0; i < x.count(3); i++) {
+        int nodes = x.count(3);
+        for (int i = 0; i < nodes; i++) {
             told.append(i == 0 ? "" : " ").append(x.node(i, 3)).append((char) ('A' + x.node(i, 0)));
             told.append(x.node(i, 1)).append('-').append(x.node(i, 2));
         }
@@ -45,7 +51,8 @@ final class Use {
     /** What the memory has of a rule at all places: "3 -1 -2". */
     static String memory(ChoiceParser x, int rule) {
         StringBuilder told = new StringBuilder();
-        for (int place = 0; place <= x.count(2); place++) {
+        int letters = x.count(2);
+        for (int place = 0; place <= letters; place++) {
             told.append(place == 0 ? "" : " ").append(x.memory(rule, place));
         }
         return told.toString();
@@ -57,5 +64,27 @@ final class Use {
             told.append(what == 0 ? "" : " ").append(x.count(what));
         }
         return told.toString();
+    }
+
+    /** What can be asked of the object without a change; but not its tree. */
+    static String state(ChoiceParser x) {
+        StringBuilder told = new StringBuilder();
+        for (int what : new int[] {0, 1, 2, 4, 5}) {
+            told.append(x.count(what)).append(' ');
+        }
+        told.append("check ").append(x.check()).append(" full ").append(x.full());
+        for (int rule = 0; rule < 6; rule++) {
+            told.append(", ").append((char) ('A' + rule)).append(' ').append(memory(x, rule));
+            told.append(" outcomes ").append(outcomes(x, rule));
+        }
+        return told.toString();
+    }
+
+    private static String outcomes(ChoiceParser x, int rule) {
+        try {
+            return String.valueOf(x.outcomes(rule));
+        } catch (RuntimeException e) {
+            return e.getClass().getSimpleName();
+        }
     }
 }

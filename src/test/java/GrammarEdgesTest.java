@@ -185,6 +185,35 @@ public final class GrammarEdgesTest {
         for (int rule = 0; rule < 6; rule++) {
             due.is("one by the other, " + rule, x.outcomes(rule), want[rule]);
         }
+        thriceRound();
+        nothingOfBefore();
+    }
+
+    /** Each outcome comes only by the one before it, so all rules must be gone through again for it. */
+    private static void thriceRound() {
+        for (String e : new String[] {"a/!A", "&a/!Aa", "&a(Aa)?", "!a(&A/a)+", "!a/AaAA/!(A*)"}) {
+            due.is("outcomes of " + e, outcomes("A=" + e), 7);
+            ChoiceParser down = Use.parser("A=B", "B=C", "C=D", "D=E", "E=F", "F=" + e);
+            ChoiceParser up = Use.parser("F=E", "E=D", "D=C", "C=B", "B=A", "A=" + e.replace('A', 'F'));
+            for (int rule = 0; rule < 6; rule++) {
+                due.is("down to " + e + ", " + rule, down.outcomes(rule), 7);
+                due.is("up to " + e + ", " + rule, up.outcomes(rule), 7);
+            }
+        }
+    }
+
+    /** What was found before a rule changed is no reason for anything. */
+    private static void nothingOfBefore() {
+        ChoiceParser x = Use.parser("A=B", "B=C", "C=a?");
+        due.is("outcomes before", x.outcomes(0), 3);
+        Use.rule(x, "C=A");
+        for (int rule = 0; rule < 3; rule++) {
+            due.is("outcomes of a ring behind it", x.outcomes(rule), 0);
+        }
+        due.is("check() of a ring behind it", x.check(), 3);
+        Use.rule(x, "C=aA");
+        due.is("outcomes of what fails behind it", x.outcomes(0), 4);
+        due.is("check() of what fails behind it", x.check(), 0);
     }
 
     private static void outcomesAsNumber() {

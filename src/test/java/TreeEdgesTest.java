@@ -16,6 +16,9 @@ public final class TreeEdgesTest {
         first60();
         first60Deep();
         first60Beside();
+        manyBesideEachOther();
+        lastOfAll();
+        workedOutAnew();
         due.end();
     }
 
@@ -230,5 +233,46 @@ public final class TreeEdgesTest {
         ChoiceParser y = Use.feed(Use.parser("A=(BBBB.)*b/CC", "B=b?", "C=B.*"), "a".repeat(20));
         due.is("match", y.match(0, 0), 20);
         due.is("tree", Use.tree(y), "0A0-20 1C0-20 2B0-0 1C20-20 2B20-20");
+    }
+
+    private static void manyBesideEachOther() {
+        due.sentence("Promise 11", "(The first 60 in this order are kept.)");
+        // More than 60 below A at each place; none of them may push what another place has.
+        ChoiceParser x = Use.feed(Use.parser("A=(BBB.B)*", "B=b?"), "a".repeat(20));
+        for (int place : new int[] {1, 0, 2, 1, 0}) {
+            due.is("match at " + place, x.match(0, place), 20);
+            for (int i = 1; i < 60; i += 3) {
+                due.is("begin of node " + i + " from " + place, x.node(i, 1), place + i / 4);
+            }
+        }
+    }
+
+    private static void lastOfAll() {
+        due.sentence("Terms", "RULES are A .. F (0 .. 5)");
+        // The last rule at the last place has what is below it, too.
+        ChoiceParser x = Use.feed(Use.parser("F=EEE", "E=!."), "a".repeat(20));
+        due.is("match", x.match(5, 20), 20);
+        due.is("tree", Use.tree(x), "0F20-20 1E20-20 1E20-20 1E20-20");
+    }
+
+    private static void workedOutAnew() {
+        due.sentence("Promise 9", "The tree is that of this match then");
+        ChoiceParser x = Use.feed(Use.parser("A=B*", "B=a"), "a");
+        due.is("match", x.match(0, 0), 1);
+        due.is("tree", Use.tree(x), "0A0-1 1B0-1");
+        x.feed('a');
+        due.is("match of more", x.match(0, 0), 2);
+        due.is("tree of more", Use.tree(x), "0A0-2 1B0-1 1B1-2");
+        x.clear();
+        due.is("match of nothing", x.match(0, 0), 0);
+        due.is("tree of nothing", Use.tree(x), "0A0-0");
+        // What was met before a depth above 40 ended it is not met twice.
+        ChoiceParser y = Use.feed(Use.parser("A=BaA/B", "B=!b"), "a".repeat(10));
+        due.throwsA("too deep", IllegalStateException.class, () -> y.match(0, 0));
+        due.is("match further on", y.match(0, 8), 10);
+        due.is("tree further on", Use.tree(y), "0A8-10 1B8-8 1A9-10 2B9-9 2A10-10 3B10-10");
+        due.is("match", y.match(0, 0), 10);
+        due.is("nodes", y.count(3), 22);
+        due.is("the second node of A", y.node(2, 0), 0);
     }
 }

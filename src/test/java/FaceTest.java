@@ -48,7 +48,17 @@ public final class FaceTest {
         due.is("NONE", ChoiceParser.NONE, -1);
         hidden.retainAll(open);
         due.is("private methods with a public one's name", hidden.toString(), "[]");
+        classesInside(due);
         due.end();
+    }
+
+    /** LANGUAGE.md, rule 1: they are private or package-visible, and static. */
+    private static void classesInside(Due due) {
+        for (Class<?> inside : ChoiceParser.class.getDeclaredClasses()) {
+            int modifiers = inside.getModifiers();
+            boolean hidden = !Modifier.isPublic(modifiers) && !Modifier.isProtected(modifiers);
+            due.is(inside + " is hidden and static", hidden && Modifier.isStatic(modifiers), true);
+        }
     }
 
     private static void add(Executable e, String told, Set<String> seen) {
